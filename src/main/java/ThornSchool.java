@@ -576,7 +576,7 @@ public final class ThornSchool {
     }
 
     private static boolean has(int set, int i) {
-        return (set >>> i & 1) == 1;
+        return ((set >>> i) & 1) == 1;
     }
 
     private static boolean isIn(int v, int least, int most) {
@@ -698,7 +698,7 @@ public final class ThornSchool {
 
         void addInt(int four) {
             for (int shift = 24; shift >= 0; shift -= 8) {
-                put(bytes, fed, four >>> shift & 255);
+                put(bytes, fed, (four >>> shift) & 255);
                 fed++;
             }
         }
@@ -738,7 +738,7 @@ public final class ThornSchool {
             for (; next < end && isLetter(get(bytes, next)); next++) {
                 letters++;
                 // a NAME of eight letters fills the eight bytes of a long, so that names can be compared as numbers
-                name = name << 8 | get(bytes, next);
+                name = (name << 8) | get(bytes, next);
             }
             kind = letters > LONGEST_NAME ? LONG_WORD : NAME;
         }
@@ -749,7 +749,7 @@ public final class ThornSchool {
             for (int i = 0; i < WORDS.length(); i++) {
                 char c = WORDS.charAt(i);
                 if (c != ' ') {
-                    word = word << 8 | c;
+                    word = (word << 8) | c;
                 } else if (word == name) {
                     return words;
                 } else {
@@ -958,10 +958,10 @@ public final class ThornSchool {
         int around(int set) {
             int first = 0;
             for (int row = 0; row < high; row++) first |= bit(row * wide);
-            int last = first << wide - 1;
+            int last = first << (wide - 1);
             int all = bit(cells()) - 1;
             // nothing is left of the first column, right of the last one
-            return ((set & ~last) << 1 | (set & ~first) >>> 1 | set << wide | set >>> wide) & all;
+            return (((set & ~last) << 1) | ((set & ~first) >>> 1) | (set << wide) | (set >>> wide)) & all;
         }
 
         boolean areNear(int pupil, int other) {
@@ -1600,7 +1600,11 @@ public final class ThornSchool {
         /** The CELLS at most so many steps from a set, if only those of another set are stepped on. */
         private int within(int set, int stepped, int steps) {
             int seen = set;
-            for (int i = 0; i < steps; i++) seen |= school.around(seen) & stepped;
+            for (int i = 0; i < steps; i++) {
+                int more = seen | (school.around(seen) & stepped);
+                if (more == seen) return seen;
+                seen = more;
+            }
             return seen;
         }
 

@@ -115,6 +115,8 @@ public final class ModelTest {
         if (draws.nextInt(3) == 0) s = spoilt(s);
         int most = call.equals("school") ? 900 : 310;
         if (s.length() > most) s = s.substring(0, most);
+        // what is still on the tape goes as a faulty text
+        if (!y.tape.isEmpty()) both("school", y.tape.size());
         for (int i = 0; i < s.length(); i += 20) {
             long[] v = new long[5];
             for (int k = 0; k < 20; k++) {
@@ -135,7 +137,12 @@ public final class ModelTest {
         String signs = "abz09 ;<>=\n\t.A-`{/:" + (char) 233 + (char) 255 + (char) 0;
         for (int i = 1 + draws.nextInt(3); i > 0 && b.length() > 0; i--) {
             int at = draws.nextInt(b.length());
-            switch (draws.nextInt(6)) {
+            switch (draws.nextInt(9)) {
+                case 6: case 7: {
+                    String[] parts = s.split("(?<=;)");
+                    b.insert(draws.nextBoolean() ? 0 : b.length(), parts[draws.nextInt(parts.length)]);
+                    break;
+                }
                 case 0: b.setCharAt(at, signs.charAt(draws.nextInt(signs.length()))); break;
                 case 1: b.insert(at, signs.charAt(draws.nextInt(signs.length()))); break;
                 case 2: b.deleteCharAt(at); break;
@@ -145,7 +152,8 @@ public final class ModelTest {
                     int k = draws.nextInt(w.length);
                     String[] all = ("thicket by odds thorns berries lesson hours needs pupil at want knows go left right up down free tear pick "
                         + "year any when caught loop end stop abcdefgh abcdefghi 1 10 16 17 20 21 99 100 9999 12345 0 ; < = > p q l m").split(" ");
-                    if (draws.nextInt(4) > 0) w[k] = all[draws.nextInt(all.length)] + " ";
+                    if (w[k].matches("[0-9]+[ ;]") && draws.nextInt(3) > 0) w[k] = draws.nextInt(30) + w[k].substring(w[k].length() - 1);
+                    else if (draws.nextInt(4) > 0) w[k] = all[draws.nextInt(all.length)] + " ";
                     else w[k] = w[k] + w[draws.nextInt(w.length)];
                     b = new StringBuilder(String.join("", w));
             }
@@ -177,7 +185,7 @@ public final class ModelTest {
                 list(b, " needs", lessons);
                 b.append(";");
                 lessons++;
-            } else if (kind > 3 && (pupils < 5 || draws.nextInt(10) == 0)) {
+            } else if ((kind > 3 || i == 3) && (pupils < 5 || draws.nextInt(10) == 0)) {
                 b.append("pupil ").append(name('p', pupils)).append(" at ").append(draws.nextInt(wide * high));
                 if (draws.nextBoolean()) b.append(" want ").append(draws.nextInt(draws.nextBoolean() ? 3 : 10));
                 list(b, " knows", lessons);
@@ -200,7 +208,7 @@ public final class ModelTest {
 
     private String autumnsText() {
         StringBuilder b = new StringBuilder();
-        int steps = draws.nextInt(14);
+        int steps = draws.nextInt(draws.nextInt(10) == 0 ? 36 : 14);
         int open = 0;
         for (int i = 0; i < steps; i++) {
             switch (draws.nextInt(12)) {
@@ -209,8 +217,8 @@ public final class ModelTest {
                 case 3: b.append("tear ").append(who()); break;
                 case 4: b.append("pick ").append(who()); break;
                 case 5: b.append("year ").append(1 + draws.nextInt(draws.nextInt(5) == 0 ? 20 : 2)); break;
-                case 6: case 7: case 8: b.append("any"); break;
-                case 9: b.append(test()); open++; break;
+                case 6: case 7: b.append("any"); break;
+                case 8: case 9: b.append(test()); open++; break;
                 case 10: b.append("loop ").append(1 + draws.nextInt(draws.nextBoolean() ? 99 : 5)); open++; break;
                 default: b.append(draws.nextInt(4) == 0 ? "stop" : "any");
             }
@@ -224,6 +232,7 @@ public final class ModelTest {
     private String who() {
         int n = y.w.pupils.size();
         String s = n == 0 ? "nobody" : y.w.pupils.get(draws.nextInt(n)).name;
+        if (s.isEmpty() && y.w.pupils.size() > 0) s = y.w.pupils.get(0).name;
         return s.isEmpty() ? "nobody" : s;
     }
 
