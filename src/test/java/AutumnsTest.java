@@ -46,6 +46,14 @@ public final class AutumnsTest {
         taken("loop 1;loop 1;loop 1;end;loop 1;end;end;end;loop 1;end;", 5);
         taken("any;".repeat(30), 30);
         taken("loop 2;end;".repeat(15) + "any;".repeat(15), 30);
+        taken("loop1;end;".repeat(30), 30);
+        ThornSchool x = Check.with(TWO);
+        CHECK.fault(x, "loops left open", Check.autumns(x, "loop9;end;".repeat(27) + "loop3;loop3;any;"), 2, 286);
+        CHECK.fault(x, "no end of what a faulty text began", Check.autumns(x, "any;end;"), 2, 4);
+        CHECK.done(x, "as many places as there can be", Check.autumns(x, "loop9;end;".repeat(29) + "loop9;end;"), 30);
+        lives("as many places as there can be", x, 0, 30, 0, 0, 0, 0, 0);
+        CHECK.done(x, "the deepest at the end", Check.autumns(x, "loop1;end;".repeat(26) + "loop2;loop2;loop2;end;end;end;"), 29);
+        lives("the deepest at the end", x, 0, 26 + 1 + 2 + 4, 0, 0, 0, 0, 0);
     }
 
     private static void faultsOfKindsOneAndTwo() {
@@ -54,6 +62,14 @@ public final class AutumnsTest {
         fault("year -1;", 1, 5);
         fault("when knows p ? 1;", 1, 13);
         fault("any", 2, 3);
+        fault("21;", 2, 0);
+        fault("26;", 2, 0);
+        fault("12 p left;", 2, 0);
+        fault("loop 1;25;", 2, 7);
+        fault("go p 13;", 2, 5);
+        fault("when 23 p;", 2, 5);
+        fault("when knows p 60 1;", 2, 13);
+        fault("any<", 2, 3);
         fault("any ", 2, 4);
         fault(";", 2, 0);
         fault("p", 2, 0);
@@ -176,6 +192,7 @@ public final class AutumnsTest {
         CHECK.same("3 years", x.told(5), 3);
         CHECK.same("thorns", x.cell(1, 0), 5);
         CHECK.same("berries", x.cell(1, 1), 3);
+        lives("again, from how all is now", x, 0, 13, 8, 2, 0, 0, 0);
     }
 
     private static void missed() {
@@ -245,6 +262,8 @@ public final class AutumnsTest {
         lives("empty rounds", x, 0, 100, 0, 0, 0, 0, 0);
         Check.autumns(x, "loop 99;when at p 0;stop;end;go p left;end;");
         lives("stop ends all", x, 0, 5, 0, 1, 0, 0, 0);
+        Check.autumns(x, "when at p 0;go p up;end;");
+        lives("a when where a loop was stopped is no loop", x, 0, 2, 1, 0, 0, 0, 0);
         Check.autumns(x, "loop 1;go p left;end;go p right;");
         lives("once", x, 0, 3, 1, 1, 0, 0, 0);
     }

@@ -158,6 +158,8 @@ public final class DeedsTest {
         CHECK.done(x, "more", x.pick(0), 9);
         CHECK.same("marks", x.pupil(0, 4), 14);
         CHECK.same("thorns stay", x.cell(1, 0), 4);
+        x.plant(1, 1, 1);
+        CHECK.done(x, "one alone", x.pick(0), 1);
     }
 
     private static void years() {

@@ -96,6 +96,10 @@ public final class GamesTest {
         move("thicket 5 by 1;pupil p at 0;pupil q at 4;", 3, 1);
         move("thicket 3 by 2;pupil p at 1;pupil q at 2;", 2, 0);
         move("thicket 1 by 5;pupil p at 3;pupil q at 0;", 1, 2);
+        // at the beginning they are in one cell, though only p could go on from there
+        game("thicket 3 by 1;thorns 0 1;thorns 2 1;lesson a hours 1;pupil p at 1 knows a;pupil q at 1;", 1, 0);
+        game("thicket 5 by 5;pupil p at 24;pupil q at 23;", 4, 1);
+        game("thicket 5 by 5;thorns 19 1;pupil p at 24;pupil q at 23;", 1, 0);
         move("thicket 1 by 5;pupil p at 3;pupil q at 2;", 1, 3);
     }
 

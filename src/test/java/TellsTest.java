@@ -52,6 +52,11 @@ public final class TellsTest {
         CHECK.none(x, "cell 6", x.cell(6, 0), 1);
         CHECK.none(x, "what -1", x.cell(0, -1), 1);
         CHECK.none(x, "what 3", x.cell(0, 3), 1);
+        ThornSchool y = Check.with("thicket 5 by 5;thorns 24 3;berries 24 4;pupil p at 24;");
+        CHECK.done(y, "thorns of the last", y.cell(24, 0), 3);
+        CHECK.done(y, "berries of the last", y.cell(24, 1), 4);
+        CHECK.done(y, "who is at the last", y.cell(24, 2), 1);
+        CHECK.none(y, "no cell 25", y.cell(25, 0), 1);
         x.go(0, 1);
         CHECK.done(x, "he went", x.cell(0, 2), 0);
         CHECK.done(x, "he came", x.cell(1, 2), 1);
@@ -67,6 +72,11 @@ public final class TellsTest {
         CHECK.done(x, "who know b", x.lesson(1, 2), 2);
         x.teach(0, 1, true);
         CHECK.done(x, "who know b then", x.lesson(1, 2), 3);
+        x.mark();
+        Check.school(x, "lesson z hours 1;pupil y at 3;");
+        CHECK.done(x, "who know z: none of those who were there", x.lesson(0, 2), 0);
+        CHECK.done(x, "who is at 0: none of them", x.cell(0, 2), 0);
+        x.undo();
         CHECK.none(x, "lesson -1", x.lesson(-1, 0), 1);
         CHECK.none(x, "lesson 2", x.lesson(2, 0), 1);
         CHECK.none(x, "what -1", x.lesson(0, -1), 1);

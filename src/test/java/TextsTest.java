@@ -104,6 +104,17 @@ public final class TextsTest {
         fault("odds 1", 2, 6);
         fault("odds 1 \n", 2, 8);
         fault("odds 1 1;", 2, 7);
+        fault("odds 1 59", 2, 7);
+        fault("odds 1<", 2, 6);
+        fault("0 1 by 1;", 2, 0);
+        fault("2 1;", 2, 0);
+        fault("3 0 1;", 2, 0);
+        fault("5 l hours 1;", 2, 0);
+        fault("8 p at 0;", 2, 0);
+        fault("thicket 1 1 1;", 2, 10);
+        fault("lesson l 6 1;", 2, 9);
+        fault("lesson l hours 1 7;", 2, 17);
+        fault("pupil p 9 0;", 2, 8);
         fault("odds;", 2, 4);
         fault(";", 2, 0);
         fault("1", 2, 0);

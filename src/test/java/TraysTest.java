@@ -70,8 +70,10 @@ public final class TraysTest {
         CHECK.none(x, "many 61", x.tray(0, 0, 61), 1);
         CHECK.done(x, "the old one stays", x.read(0, 59), 0);
         CHECK.done(x, "write", x.write(0, 1, 5));
+        CHECK.done(x, "write", x.write(0, 0, 4));
         CHECK.done(x, "a tray again", x.tray(0, 0, 2));
         CHECK.done(x, "is 0s again", x.read(0, 1), 0);
+        CHECK.done(x, "from its first place on", x.read(0, 0), 0);
         CHECK.none(x, "and short", x.read(0, 2), 3);
         CHECK.done(x, "an empty tray", x.tray(0, 0, 0));
         CHECK.none(x, "has no place", x.read(0, 0), 3);

@@ -48,6 +48,7 @@ public final class WalksTest {
         x.go(0, 1);
         CHECK.done(x, "caught, his own", x.far(0, 1), 0);
         CHECK.none(x, "caught, another", x.far(0, 2), 6);
+        CHECK.none(x, "caught, the one he came from", x.far(0, 0), 6);
         ThornSchool y = Check.with("thicket 5 by 5;thorns 1 1;thorns 6 1;thorns 11 1;thorns 16 1;thorns 8 1;thorns 13 1;thorns 18 1;thorns 23 1;pupil p at 0;");
         CHECK.done(y, "a long one", y.far(0, 24), 16);
     }
@@ -108,6 +109,11 @@ public final class WalksTest {
         CHECK.done(y, "over 3", y.pricks(0, 4), 9);
         y.plant(1, 0, 9);
         CHECK.done(y, "straight all the same", y.pricks(0, 2), 12);
+        ThornSchool z = Check.with("thicket 5 by 5;thorns 24 9;thorns 19 1;thorns 23 2;pupil p at 0 want 9;");
+        CHECK.done(z, "to the last", z.pricks(0, 24), 18 + 10);
+        CHECK.done(z, "the last is not clear", z.reach(0), (1 << 25) - 1 - (1 << 24) - (1 << 19) - (1 << 23));
+        CHECK.done(z, "to be opened", z.opening(0, 24), 2);
+        CHECK.none(z, "far", z.far(0, 24), 6);
     }
 
     private static void openings() {

@@ -82,6 +82,10 @@ public final class WantsTest {
         CHECK.done(x, "by 0 in 2 none parts: the first", x.ask(0, 0, 1), 0);
         Check.row(x, 0, 1, 0);
         CHECK.done(x, "0 to 4, parted by 2", x.ask(0, 0, 1), 2);
+        ThornSchool y = Check.with("thicket 3 by 1;thorns 1 1;thorns 2 3;lesson a hours 1;lesson b hours 1;pupil p at 0 knows a b;");
+        Check.row(y, 0, 1, 0);
+        CHECK.done(y, "two: 0 and 1", y.fits(0, 0, 1), 2);
+        CHECK.done(y, "two are parted", y.ask(0, 0, 1), 2);
     }
 
     private static void whose() {
@@ -116,6 +120,12 @@ public final class WantsTest {
         all(x, 9, 3, 1, 1);
         all(x, 0, 3, 1, 2);
         all(x, 0, 3, 0, 2);
+        Check.row(x, 2, 0, 0, 1, 19);
+        all(x, 0, 2, 2, 5);
+        Check.row(x, 2, 0, 0, 4, 0);
+        all(x, 0, 2, 2, 5);
+        Check.row(x, 2, 0, 0, 0, 0, 1, 4, 0, 99);
+        CHECK.done(x, "catches stand at odd places", x.fits(0, 2, 3), 1);
         all(x, 0, 0, 3, 3);
         all(x, 0, 0, 20, 3);
         all(x, 0, 0, 2, 5);
