@@ -126,7 +126,7 @@ public final class ModelTest {
             for (int k = 0; k < 5; k++) v[k] = (int) v[k];
             both("feed", v);
         }
-        both(call, s.length());
+        both(call, draws.nextInt(12) == 0 ? draws.nextInt(s.length() + 1) : s.length());
         both("fault", 0);
         both("fault", 1);
         if (!y.tape.isEmpty()) both("school", 0);

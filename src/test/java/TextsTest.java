@@ -10,6 +10,7 @@ public final class TextsTest {
         faultsOfKindsThreeAndFour();
         faultsOfKindsFiveAndSix();
         firstFaultCounts();
+        cutTexts();
         oldOneStays();
         faultTells();
         CHECK.end();
@@ -214,6 +215,25 @@ public final class TextsTest {
         fault("thorns 16 10;", 4, 7);
         fault("lesson l hours 1;lesson l", 3, 24);
         fault("odds 1;odds ?", 5, 7);
+    }
+
+    /** What stands on the tape behind the first n bytes is no part of the text. */
+    private static void cutTexts() {
+        ThornSchool x = new ThornSchool();
+        Check.feed(x, "odds 12;");
+        CHECK.fault(x, "odds 1", x.school(6), 2, 6);
+        Check.feed(x, "odds   1;");
+        CHECK.fault(x, "odds and a blank", x.school(5), 2, 5);
+        Check.feed(x, "lesson lm hours 1;");
+        CHECK.fault(x, "lesson l", x.school(8), 2, 8);
+        Check.feed(x, "odds 1;?");
+        CHECK.done(x, "odds 1;", x.school(7), 0);
+        Check.feed(x, "odds 3;;");
+        CHECK.done(x, "odds 3;", x.school(7), 0);
+        Check.feed(x, "lesson abcdefghi");
+        CHECK.fault(x, "lesson abcdefgh", x.school(15), 2, 15);
+        Check.feed(x, "odds 12345;");
+        CHECK.fault(x, "odds 1234", x.school(9), 4, 5);
     }
 
     private static void oldOneStays() {
