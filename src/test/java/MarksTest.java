@@ -26,10 +26,14 @@ public final class MarksTest {
 
     private static String all(ThornSchool x) {
         StringBuilder b = new StringBuilder();
-        for (int i = 0; i < 11; i++) b.append(x.told(i)).append(' ');
-        for (int c = 0; c < x.told(0) * x.told(1); c++) for (int i = 0; i < 3; i++) b.append(x.cell(c, i)).append(' ');
-        for (int l = 0; l < x.told(2); l++) for (int i = 0; i < 3; i++) b.append(x.lesson(l, i)).append(' ');
-        for (int p = 0; p < x.told(3); p++) for (int i = 0; i < 7; i++) b.append(x.pupil(p, i)).append(' ');
+        int[] told = new int[11];
+        for (int i = 0; i < 11; i++) {
+            told[i] = x.told(i);
+            b.append(told[i]).append(' ');
+        }
+        for (int c = 0; c < told[0] * told[1]; c++) for (int i = 0; i < 3; i++) b.append(x.cell(c, i)).append(' ');
+        for (int l = 0; l < told[2]; l++) for (int i = 0; i < 3; i++) b.append(x.lesson(l, i)).append(' ');
+        for (int p = 0; p < told[3]; p++) for (int i = 0; i < 7; i++) b.append(x.pupil(p, i)).append(' ');
         return b.toString();
     }
 
@@ -78,6 +82,11 @@ public final class MarksTest {
             CHECK.yes("as it was by mark " + i, was[i].equals(all(x)));
             x.year(20);
         }
+        x = busy();
+        x.mark();
+        x.year(2);
+        x.undo();
+        x.year(20);
         x.mark();
         String then = all(x);
         x.year(1);

@@ -25,7 +25,7 @@ public final class ModelTest {
     }
 
     public static void main(String[] args) {
-        int runs = args.length > 1 ? Integer.parseInt(args[1]) : 300;
+        int runs = args.length > 1 ? Integer.parseInt(args[1]) : 1000;
         ModelTest t = new ModelTest(20261118);
         for (int i = 0; i < runs && !t.wrong; i++) t.run();
         t.check.end();
@@ -37,7 +37,8 @@ public final class ModelTest {
         history.clear();
         calls = 0;
         if (draws.nextInt(8) > 0) text("school");
-        while (calls < 490 && !wrong) some();
+        // no object is asked more than 512 times; a text takes some 70 of them
+        while (calls < 420 && !wrong) some();
         if (wrong) for (String h : history) System.out.println(h);
     }
 
@@ -248,17 +249,23 @@ public final class ModelTest {
 
     private void both(String call, long... a) {
         if (wrong) return;
-        calls++;
         StringBuilder s = new StringBuilder(call);
         for (long v : a) s.append(" ").append(v);
         long due = y.call(call, a);
-        long got = program(call, a);
         history.add(s + " -> " + due + " (" + y.status + ")");
-        check.same(s.toString(), got, due);
-        check.same(s + ", its status", x.status(), y.status);
-        check.same(s + ", its top", x.top(), y.top.longValueExact());
-        check.same(s + ", its bottom", x.bottom(), y.bottom.longValueExact());
-        if (got != due || x.status() != y.status || x.top() != y.top.longValueExact() || x.bottom() != y.bottom.longValueExact()) wrong = true;
+        same(s.toString(), program(call, a), due);
+        boolean tells = call.equals("chance") || call.equals("slips") || call.equals("mean");
+        boolean often = history.size() % 8 == 0;
+        if (often || !call.equals("feed") && !call.equals("fault")) same(s + ", its status", x.status(), y.status);
+        if (!tells && !often) return;
+        same(s + ", its top", x.top(), y.top.longValueExact());
+        same(s + ", its bottom", x.bottom(), y.bottom.longValueExact());
+    }
+
+    private void same(String what, long got, long due) {
+        calls++;
+        check.same(what, got, due);
+        if (got != due) wrong = true;
     }
 
     private long program(String call, long[] v) {

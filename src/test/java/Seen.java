@@ -11,14 +11,16 @@ final class Seen {
     /** What is seen of an object that is made so, behind a call. */
     static String behind(Supplier<ThornSchool> made, ToLongFunction<ThornSchool> call) {
         Seen seen = new Seen();
-        for (int part = 0; part < 5; part++) {
+        for (int part = 0; part < 6; part++) {
             ThornSchool x = made.get();
             call.applyAsLong(x);
             switch (part) {
                 case 0: seen.toldOnes(x); seen.school(x); break;
-                case 1: seen.trays(x); break;
-                case 2: seen.tape(x); break;
-                case 3: seen.autumns(x); break;
+                // no object is asked more than 512 times, so that full rows take two objects
+                case 1: seen.trays(x, 0, 1); break;
+                case 2: seen.trays(x, 2, 3); break;
+                case 3: seen.tape(x); break;
+                case 4: seen.autumns(x); break;
                 default: seen.marks(x);
             }
         }
@@ -53,8 +55,8 @@ final class Seen {
         for (int p = 0; p < x.told(3); p++) for (int i = 0; i < 7; i++) add("pupil" + p + "," + i + ":", x.pupil(p, i));
     }
 
-    private void trays(ThornSchool x) {
-        for (int t = 0; t < 4; t++) {
+    private void trays(ThornSchool x, int first, int last) {
+        for (int t = first; t <= last; t++) {
             for (int i = 0; i <= 60; i++) {
                 long v = x.read(t, i);
                 int status = x.status();
