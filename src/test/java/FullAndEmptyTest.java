@@ -20,9 +20,12 @@ public final class FullAndEmptyTest {
         theFewestAndTheMostThorns();
         theLongestWay();
         freedInARow();
+        freedInAColumn();
+        asksByTouch();
         ordersOfSome();
         gamesWithoutATurn();
         slipsOfAll();
+        callsToTheLast();
         CHECK.end();
     }
 
@@ -413,6 +416,44 @@ public final class FullAndEmptyTest {
         CHECK.done(x, "all are caught still", x.told(8), 15);
     }
 
+    private static void freedInAColumn() {
+        for (int side : new int[] {2, 3}) {
+            ThornSchool x = Check.with("thicket 1 by 5;thorns 2 3;pupil p at " + (side == 2 ? 3 : 1) + ";pupil q at 2;pupil r at 1;pupil s at 3;pupil t at 0;");
+            x.go(0, side);
+            CHECK.done(x, "all", x.freed(), 31);
+            CHECK.done(x, "in his cell, above, below", x.helpers(0), 2 + 4 + 8);
+            CHECK.none(x, "two above", x.free(4, 0), 7);
+            CHECK.done(x, "above", x.free(2, 0), 2);
+            CHECK.done(x, "below", x.free(3, 0), 1);
+            CHECK.done(x, "in his cell", x.free(1, 0), 0);
+        }
+        ThornSchool y = Check.with("thicket 1 by 5;thorns 4 1;pupil p at 3;pupil q at 2;");
+        y.go(0, 3);
+        CHECK.done(y, "two above: not freed", y.freed(), 2);
+        CHECK.done(y, "nobody helps", y.helpers(0), 0);
+    }
+
+    /** Where something grows some are parted at least: but for 0 each CATCH is by one WANT. */
+    private static void asksByTouch() {
+        String all = "a b c d e f g";
+        for (int touch = 0; touch <= 7; touch++) {
+            ThornSchool x = Check.with("thicket 5 by 5;" + SEVEN + "pupil p at 0 knows " + all.substring(0, Math.max(0, 2 * touch - 1)) + ";");
+            x.tray(0, 0, 40);
+            CHECK.done(x, "nothing grows: the first", x.ask(0, 0, 0), 0);
+            for (int thorns = 1; thorns <= 9; thorns++) {
+                x.plant(23, 0, thorns);
+                CHECK.done(x, "the only one", x.ask(0, 0, 0), 23);
+                CHECK.done(x, "by twenty twos of nothing, too", x.ask(0, 0, 20), 23);
+                x.plant(24, 0, thorns);
+                CHECK.done(x, "of two alike the first", x.ask(0, 0, 0), 23);
+                // one thorn more parts one WANT more, as long as some are alike
+                x.plant(24, 0, Math.min(9, thorns + 1));
+                CHECK.done(x, "the better one", x.ask(0, 0, 0), thorns < 9 && thorns < touch ? 24 : 23);
+                x.plant(24, 0, 0);
+            }
+        }
+    }
+
     // ---- LESSONS, games, odds
 
     private static void ordersOfSome() {
@@ -460,5 +501,15 @@ public final class FullAndEmptyTest {
                 CHECK.fraction(x, "all of " + n + " by " + odds, x.slips(n, n), top, top == 0 ? 1 : bottom);
             }
         }
+    }
+
+    /** The 512th call is answered as the first. */
+    private static void callsToTheLast() {
+        ThornSchool x = new ThornSchool();
+        for (int i = 1; i <= 511; i++) CHECK.same("year " + i, x.year(1), 0);
+        CHECK.same("the 512th call", x.told(5), 511);
+        ThornSchool y = new ThornSchool();
+        for (int i = 0; i < 511; i++) CHECK.same("feed " + i, y.feed(0, 0, 0, 0, 0), i < 45 ? 20 * i + 20 : -1);
+        CHECK.same("the tape at the end", y.school(901), -1);
     }
 }

@@ -16,6 +16,7 @@ public final class TextEdgesTest {
         wordsAreNoNames();
         eachByte();
         eachByteBehind();
+        bytesOfInts();
         tokensGoOn();
         wordsAtTheBeginning();
         schoolsCutShort();
@@ -304,6 +305,27 @@ public final class TextEdgesTest {
             Check.feed(x, "any;" + (char) c);
             CHECK.done(x, "autumns ahead of byte " + c, x.autumns(4), 1);
         }
+    }
+
+    /** The highest byte of each int comes first, those above 127, too. */
+    private static void bytesOfInts() {
+        for (int c : new int[] {'?', 0, 1, 127, 128, 255}) {
+            for (int place = 0; place < 20; place++) {
+                int[] v = {0x20202020, 0x20202020, 0x20202020, 0x20202020, 0x20202020};
+                int shift = 24 - place % 4 * 8;
+                v[place / 4] = v[place / 4] & ~(255 << shift) | c << shift;
+                ThornSchool x = new ThornSchool();
+                CHECK.same("feed", x.feed(v[0], v[1], v[2], v[3], v[4]), 20);
+                CHECK.fault(x, "byte " + c + " at " + place, x.school(20), 1, place);
+                x.feed(0x20202020, 0x20202020, 0x20202020, 0x20202020, 0x20202020);
+                CHECK.same("feed again", x.feed(v[0], v[1], v[2], v[3], v[4]), 40);
+                CHECK.fault(x, "byte " + c + " at " + (20 + place), x.autumns(40), 1, 20 + place);
+            }
+        }
+        ThornSchool x = new ThornSchool();
+        CHECK.same("odds 12;", x.feed(0x6f646473, 0x2031323b, -1, Integer.MIN_VALUE, 0), 20);
+        CHECK.done(x, "the first eight bytes", x.school(8), 0);
+        CHECK.same("odds", x.told(4), 12);
     }
 
     private static void tokensGoOn() {
